@@ -160,13 +160,13 @@ public final class SessionHouse {
     }
 
     public int input(int a, int b, int c) {
-        if (house.inputs() + 3 > INPUTS) {
+        if (house.toRead + 3 > INPUTS) {
             return -1;
         }
         house.addInput(a);
         house.addInput(b);
         house.addInput(c);
-        return house.inputs();
+        return house.toRead;
     }
 
     public int start() {
@@ -177,7 +177,10 @@ public final class SessionHouse {
         if (n < 0 || n > MOST_VISITS) {
             return -1;
         }
-        return house.advance(n);
+        for (int i = 0; i < n && house.ended == GOING; i++) {
+            house.visit();
+        }
+        return house.ended;
     }
 
     public int output(int i) {
@@ -542,12 +545,12 @@ public final class SessionHouse {
             pairUp(one, other);
             for (int i = 0; i < 4 * NODES && waiting > 0; i++) {
                 waiting--;
-                int a = highest(pairs.get(2 * waiting));
-                int b = highest(pairs.get(2 * waiting + 1));
+                int a = highest(settled(pairs.get(2 * waiting)));
+                int b = highest(settled(pairs.get(2 * waiting + 1)));
                 if (a == b) {
                     continue;
                 }
-                if (!compare(a, b)) {
+                if (kindOf(a) != kindOf(b) || !(kindOf(a) >= CHOOSE ? chooseAlike(a, b) : goOnAlike(a, b))) {
                     forgetEqual();
                     return false;
                 }
@@ -557,8 +560,8 @@ public final class SessionHouse {
         }
 
         private void pairUp(int one, int other) {
-            pairs.set(2 * waiting, settled(one));
-            pairs.set(2 * waiting + 1, settled(other));
+            pairs.set(2 * waiting, one);
+            pairs.set(2 * waiting + 1, other);
             waiting++;
         }
 
@@ -571,15 +574,9 @@ public final class SessionHouse {
             return at;
         }
 
-        /** Whether both begin alike; lets the pairs that follow wait. */
-        private boolean compare(int a, int b) {
+        /** Both are of one kind: lets what stands in ( ) and behind them wait. */
+        private boolean goOnAlike(int a, int b) {
             int which = kindOf(a);
-            if (which != kindOf(b)) {
-                return false;
-            }
-            if (which == CHOOSE || which == OFFER) {
-                return compareParts(a, b);
-            }
             if (which == GIVE || which == GAIN) {
                 pairUp(insideOf(a), insideOf(b));
             }
@@ -589,7 +586,8 @@ public final class SessionHouse {
             return true;
         }
 
-        private boolean compareParts(int a, int b) {
+        /** Whether both have the same LABELS: lets what stands by them wait. */
+        private boolean chooseAlike(int a, int b) {
             if (choices(a) != choices(b)) {
                 return false;
             }
@@ -963,7 +961,11 @@ public final class SessionHouse {
         private void leave(int which) {
             closedAt = place;
             open--;
-            expect(which);
+            if (kind == which) {
+                step();
+            } else {
+                refuse();
+            }
         }
 
         private void mentionName(int ofProc) {
@@ -1164,24 +1166,24 @@ public final class SessionHouse {
                     statements.addBranch(s, -1, -1, readBlock(s));
                     break;
                 default:
-                    readPlain(s, word);
+                    readNames(s, word);
+                    if (word == NAME || word == SEND || word == PUT) {
+                        readFormula(s);
+                    }
                     expect(';');
                     break;
             }
             return s;
         }
 
-        /** What a STATEMENT has that holds no others and makes no process. */
-        private void readPlain(int s, int word) {
+        /** The NAMES of a STATEMENT that holds no others and makes no process. */
+        private void readNames(int s, int word) {
             if (word != PUT) {
                 readSlot(s);
             }
             if (word == NAME) {
                 expect('=');
-            }
-            if (word == NAME || word == SEND || word == PUT) {
-                readFormula(s);
-            } else if (word != GET) {
+            } else if (word >= RECV && word <= PICK) {
                 readSecond(s, word == PICK);
             }
         }
@@ -1245,9 +1247,9 @@ public final class SessionHouse {
             for (int i = 0; i < TAPE && wrong < 0 && (i > 0 || kind != ')'); i++) {
                 int from = formulas.steps;
                 boolean isName = kind == NAME;
-                int word1 = at;
+                int begin = at;
                 readExpression();
-                formulas.addArgument(from, isName && at == word1 + 1);
+                formulas.addArgument(from, isName && at == begin + 1);
                 if (kind != ',') {
                     break;
                 }
@@ -1397,7 +1399,8 @@ public final class SessionHouse {
             int kind = statements.kind.get(s);
             boolean good;
             if (kind == SPAWN || kind == BECOME) {
-                good = isGoodCall(s, kind);
+                good = fitsParameters(s) && givesArguments(s) && opensChannel(s)
+                        && (kind == SPAWN || !hasChannels());
             } else if (kind == CASE) {
                 good = isGoodCase(s);
             } else if (kind == IF || kind == WHILE) {
@@ -1475,40 +1478,48 @@ public final class SessionHouse {
             return many == forms.choices(state);
         }
 
-        private boolean isGoodCall(int s, int kind) {
+        /** Whether the proc has as many PARAMETERS, and the first one is a channel if one is told. */
+        private boolean fitsParameters(int s) {
             int proc = procs.find(statements.second.get(s));
-            int c = statements.first.get(s);
-            int from = statements.from.get(s);
-            int skipped = c >= 0 ? 1 : 0;
-            int many = statements.to.get(s) - from;
-            if (many + skipped != procs.parameters.get(proc) || c >= 0 && procs.form(proc, 0) < 0) {
-                return false;
+            int many = statements.to.get(s) - statements.from.get(s);
+            if (statements.first.get(s) < 0) {
+                return many == procs.parameters.get(proc);
             }
-            for (int i = 0; i < many; i++) {
-                if (!isGoodArgument(from + i, procs.form(proc, skipped + i))) {
-                    return false;
-                }
-            }
-            if (c >= 0) {
-                if (states.get(c) >= 0) {
-                    return false;
-                }
-                statements.closes.set(s, hold(c, procs.form(proc, 0) ^ 1));
-            }
-            return kind == SPAWN || !hasChannels();
+            return many + 1 == procs.parameters.get(proc) && procs.form(proc, 0) >= 0;
         }
 
         /** A channel that is given away is none any more, for the ARGUMENTS behind it, too. */
-        private boolean isGoodArgument(int argument, int form) {
-            if (form < 0) {
-                return formulas.isWithout(states, formulas.argumentFrom.get(argument),
-                        formulas.argumentTo.get(argument));
+        private boolean givesArguments(int s) {
+            int proc = procs.find(statements.second.get(s));
+            int k = statements.first.get(s) >= 0 ? 1 : 0;
+            for (int i = statements.from.get(s); i < statements.to.get(s); i++) {
+                int form = procs.form(proc, k);
+                int slot = formulas.alone.get(i);
+                if (form < 0) {
+                    if (!formulas.isWithout(states, formulas.argumentFrom.get(i), formulas.argumentTo.get(i))) {
+                        return false;
+                    }
+                } else if (states.get(slot) < 0 || !forms.equal(states.get(slot), form)) {
+                    return false;
+                } else {
+                    states.set(slot, -1);
+                }
+                k++;
             }
-            int slot = formulas.alone.get(argument);
-            if (states.get(slot) < 0 || !forms.equal(states.get(slot), form)) {
+            return true;
+        }
+
+        /** The NAME ahead of the proc's, if there is one, becomes a channel. */
+        private boolean opensChannel(int s) {
+            int c = statements.first.get(s);
+            if (c < 0) {
+                return true;
+            }
+            if (states.get(c) >= 0) {
                 return false;
             }
-            states.set(slot, -1);
+            int proc = procs.find(statements.second.get(s));
+            statements.closes.set(s, hold(c, procs.form(proc, 0) ^ 1));
             return true;
         }
 
@@ -1792,23 +1803,19 @@ public final class SessionHouse {
         private final Ints inputs = new Ints(INPUTS);
         private final Ints outputs = new Ints(OUTPUTS);
         private int firstInput;
-        private int toRead;
+        int toRead;
         private int put;
         private int visits;
         private int acts;
         private int cursor;
         private int used;
         private int limit;
-        private int ended = NONE;
+        int ended = NONE;
 
         House(Formulas formulas, Statements statements, Procs procs) {
             this.formulas = formulas;
             this.statements = statements;
             this.procs = procs;
-        }
-
-        int inputs() {
-            return toRead;
         }
 
         void addInput(int number) {
@@ -1847,14 +1854,7 @@ public final class SessionHouse {
             return 4 + procs.slots.get(proc);
         }
 
-        int advance(int n) {
-            for (int i = 0; i < n && ended == GOING; i++) {
-                visit();
-            }
-            return ended;
-        }
-
-        private void visit() {
+        void visit() {
             int p = cursor;
             int s = ring.spot.get(p);
             visits++;
