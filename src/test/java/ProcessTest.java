@@ -1,0 +1,106 @@
+/** Promise 11: process. */
+public final class ProcessTest {
+    private static final String TEXT = "type S=!int end;proc f(c:S,n,m){q=n-m;while 1{}send c q;}"
+            + "proc main(){a=3;spawn c f(a*4,b+1);b=a;d=c1+a;while 1{}recv c a;}";
+
+    public static void main(String[] args) {
+        Answers answers = new Answers();
+        eachWhat(answers);
+        noneSuch(answers);
+        asTheyWereMade(answers);
+        namesInOrder(answers);
+        numbersAndChannelsByOneName(answers);
+        behindBecome(answers);
+        answers.finish("ProcessTest");
+    }
+
+    private static void eachWhat(Answers answers) {
+        SessionHouse house = answers.started(TEXT);
+        house.run(20);
+        answers.due("process(0, 0, 0)", house.process(0, 0, 0), 1);
+        answers.due("process(1, 0, 0)", house.process(1, 0, 0), 0);
+        answers.due("process(0, 1, 0)", house.process(0, 1, 0), 1);
+        answers.due("process(1, 1, 0)", house.process(1, 1, 0), 1);
+        answers.due("process(0, 2, 0)", house.process(0, 2, 0), 11);
+        answers.due("process(1, 2, 0)", house.process(1, 2, 0), 9);
+        answers.due("count(1)", house.count(1), 20);
+        int[] ofMain = {3, 0, 3, 3, 0, 0};
+        for (int j = 0; j < ofMain.length; j++) {
+            answers.due("process(0, 3, " + j + ")", house.process(0, 3, j), ofMain[j]);
+        }
+        int[] ofOther = {0, 12, 1, 11, 0};
+        for (int j = 0; j < ofOther.length; j++) {
+            answers.due("process(1, 3, " + j + ")", house.process(1, 3, j), ofOther[j]);
+        }
+    }
+
+    private static void noneSuch(Answers answers) {
+        SessionHouse house = answers.loaded(TEXT);
+        answers.due("process(0, 0, 0) ahead of a run", house.process(0, 0, 0), -1);
+        answers.due("process(0, 2, 0) ahead of a run", house.process(0, 2, 0), 0);
+        house.start();
+        house.run(20);
+        int[] ks = {-1, 2, 3, Integer.MIN_VALUE, Integer.MAX_VALUE};
+        for (int k : ks) {
+            answers.due("process(" + k + ", 0, 0)", house.process(k, 0, 0), -1);
+            for (int what = 1; what <= 3; what++) {
+                answers.due("process(" + k + ", " + what + ", 1)", house.process(k, what, 1), 0);
+            }
+        }
+        int[] js = {-1, 7, 1000000, Integer.MIN_VALUE, Integer.MAX_VALUE};
+        for (int j : js) {
+            answers.due("process(0, 3, " + j + ")", house.process(0, 3, j), 0);
+            answers.due("process(0, 0, " + j + ")", house.process(0, 0, j), 1);
+        }
+        answers.due("process(0, 4, 0)", house.process(0, 4, 0), 0);
+        answers.due("process(0, -1, 0)", house.process(0, -1, 0), 0);
+    }
+
+    private static void asTheyWereMade(Answers answers) {
+        SessionHouse house = answers.started("proc f(n){while n{n=n-1;}}proc g(){while 1{}}"
+                + "proc main(){spawn g();spawn f(2);spawn g();spawn f(100);spawn f(50);}");
+        house.run(60);
+        answers.due("count(2)", house.count(2), 4);
+        int[] due = {1, 1, 0, 0, -1};
+        for (int k = 0; k < due.length; k++) {
+            answers.due("process(" + k + ", 0, 0)", house.process(k, 0, 0), due[k]);
+        }
+        answers.due("the number of f(100) is above that of f(50)",
+                house.process(2, 3, 0) > house.process(3, 3, 0) ? 1 : 0, 1);
+    }
+
+    /** LABELS and procs' NAMES are none; each NAME counts where it stands first. */
+    private static void namesInOrder(Answers answers) {
+        SessionHouse house = answers.started("type C=&{l end};proc f(c:C,b,a){d=2;case c{l{e=3;}}while 1{l=4;b=f;}}"
+                + "proc w(c:~C){pick c l;}proc main(){spawn c w();become f(c,8,9);}");
+        house.run(60);
+        answers.due("process(0, 0, 0)", house.process(0, 0, 0), 0);
+        int[] due = {0, 0, 9, 2, 3, 4, 0, 0};
+        for (int j = 0; j < due.length; j++) {
+            answers.due("process(0, 3, " + j + ")", house.process(0, 3, j), due[j]);
+        }
+        answers.due("count(4): c, b, a, d, e, l, f", house.count(4), 11);
+    }
+
+    private static void numbersAndChannelsByOneName(Answers answers) {
+        SessionHouse house = answers.started("type S=!int end;proc f(c:S){send c 1;}"
+                + "proc main(){c=6;spawn c f();while x<9{x=x+1;}recv c y;put c;while 1{}}");
+        house.run(4);
+        answers.due("process(0, 1, 0)", house.process(0, 1, 0), 1);
+        answers.due("process(0, 3, 0): the number stays", house.process(0, 3, 0), 6);
+        house.run(60);
+        answers.due("process(0, 1, 0)", house.process(0, 1, 0), 0);
+        answers.due("output(0)", house.output(0), 6);
+    }
+
+    private static void behindBecome(Answers answers) {
+        SessionHouse house = answers.started("proc f(n){x=n;while 1{}}proc main(){x=1;y=2;become f(5);}");
+        house.run(4);
+        answers.due("process(0, 0, 0)", house.process(0, 0, 0), 0);
+        answers.due("process(0, 2, 0): its ACTS go on", house.process(0, 2, 0), 4);
+        answers.due("process(0, 3, 0)", house.process(0, 3, 0), 5);
+        answers.due("process(0, 3, 1)", house.process(0, 3, 1), 5);
+        answers.due("process(0, 3, 2)", house.process(0, 3, 2), 0);
+        answers.due("count(3)", house.count(3), 1);
+    }
+}
