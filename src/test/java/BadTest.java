@@ -56,6 +56,7 @@ public final class BadTest {
         bad(answers, "c:T", "^recv c x;");
         bad(answers, "c:R", "^recv c c;");
         bad(answers, "c:R,d:R", "^recv c d;recv d c;");
+        bad(answers, "c:R,d:S", "^recv c d;send d 1;");
         good(answers, "c:R,d:R", "recv d x;recv c d;x=d;c=2;");
         good(answers, "c:~R,d:~S", "send c x;recv d x;");
         good(answers, "c:!int?int S", "send c 1;recv c x;send c x;");

@@ -11,6 +11,7 @@ public final class ProcessTest {
         namesInOrder(answers);
         numbersAndChannelsByOneName(answers);
         behindBecome(answers);
+        givenAway(answers);
         answers.finish("ProcessTest");
     }
 
@@ -102,5 +103,21 @@ public final class ProcessTest {
         answers.due("process(0, 3, 1)", house.process(0, 3, 1), 5);
         answers.due("process(0, 3, 2)", house.process(0, 3, 2), 0);
         answers.due("count(3)", house.count(3), 1);
+    }
+
+    /** The channel is of the first TYPE in the text, which is told with the PARAMETER itself. */
+    private static void givenAway(Answers answers) {
+        SessionHouse house = answers.started("proc f(c:!int end){while 1{}send c 1;}proc g(c:!(!int end)end,d:!int end){pass c d;}"
+                + "proc h(c:?int end){while 1{}recv c x;}proc k(c:?(!int end)end){while 1{}take c d;send d 1;}"
+                + "proc main(){spawn c h();spawn d k();spawn e h();spawn f(c);pass d e;while 1{}}");
+        house.run(1);
+        answers.due("process(0, 1, 0)", house.process(0, 1, 0), 1);
+        house.run(40);
+        answers.due("process(0, 1, 0): given away, passed and CLOSED", house.process(0, 1, 0), 0);
+        for (int k = 1; k <= 4; k++) {
+            answers.due("process(" + k + ", 1, 0)", house.process(k, 1, 0), 1);
+        }
+        answers.due("count(5)", house.count(5), 3);
+        answers.due("count(6)", house.count(6), 1);
     }
 }
