@@ -175,10 +175,17 @@ public final class BadTest {
         good(answers, "c:+{a !int L;b L}", "if 1{pick c a;send c 1;}else{pick c b;}become ln(c,1);");
         good(answers, "", "if 1{spawn c s1();}else{spawn c sn(1);}recv c x;");
         bad(answers, "", "^if 1{spawn c s1();}else{spawn d s1();}");
+        good(answers, "c:S", "if 1{send c 1;if 1{}else{}}else{send c 2;}");
+        good(answers, "c:S,d:S", "if 1{send c 1;if 1{send d 1;}else{send d 2;}}else{send d 1;send c 2;}");
+        good(answers, "c:S", "if 1{send c 1;while 1{}}else{send c 2;}");
+        good(answers, "c:C,d:C", "case c{a{case d{a{}b{recv d x;}}}b{recv c x;case d{a{}b{recv d x;}}}}");
+        bad(answers, "c:S,d:S", "if 1{send c 1;^if 1{send d 1;}else{}}else{send d 1;send c 2;}");
     }
 
     private static void whiles(Answers answers) {
         good(answers, "c:L", "while 1{pick c on;send c 1;}pick c off;");
+        good(answers, "c:L", "while 1{pick c on;while 1{}send c 1;}pick c off;");
+        good(answers, "c:L", "while 1{pick c on;if 1{}else{}send c 1;}pick c off;");
         bad(answers, "c:L", "^while 1{pick c on;}pick c off;");
         bad(answers, "c:L", "^while 1{pick c off;}");
         bad(answers, "", "^while 1{spawn c s1();}");
@@ -196,6 +203,8 @@ public final class BadTest {
         bad(answers, "c:L", "while 1{pick c on;send c 1;}  ^");
         good(answers, "c:E", "");
         answers.badAt("proc f(c:!int end){if 1{}else{}^}" + MAIN);
+        answers.badAt("proc f(c:!int end){^if 1{send c 1;}else{}}" + MAIN);
+        answers.badAt("proc f(c:!int !int end){^if 1{send c 1;}else{}send c 1;}" + MAIN);
         answers.badAt(MAIN + "proc f(c:!int end){^}");
     }
 

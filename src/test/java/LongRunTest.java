@@ -24,7 +24,7 @@ public final class LongRunTest {
         SessionHouse house = answers.loaded("type S=!int end;proc w(c:S,n){b=n;d=b*2;e=d+7;f=e;become v(c,f,n);}"
                 + "proc v(c:S,p,q){g=p-q;h=g;i=h;j=i;send c j;}"
                 + "proc keep(c:~S,a){z=a*3;while 0==a%7{}recv c y;put y*z;while 1{}}"
-                + "proc main(){spawn k keep(5);spawn l keep(6);while i<" + MANY
+                + "proc main(){spawn k keep(5);spawn l keep(6);become go(k,l);}proc go(k:S,l:S){while i<" + MANY
                 + "{spawn c w(i);recv c r;t=t+r;if i%10==0{put r;}else{}i=i+1;}put t;send k 2;send l 4;while 1{}}");
         house.sizes(3, 100);
         for (int times = 0; times < 2; times++) {

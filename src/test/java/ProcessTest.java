@@ -53,6 +53,11 @@ public final class ProcessTest {
             answers.due("process(0, 3, " + j + ")", house.process(0, 3, j), 0);
             answers.due("process(0, 0, " + j + ")", house.process(0, 0, j), 1);
         }
+        house = answers.started("proc f(n){while 1{}}proc main(){spawn f(77);x=5;while 1{}}");
+        house.run(9);
+        answers.due("process(0, 3, 0)", house.process(0, 3, 0), 5);
+        answers.due("process(0, 3, 1): main has one NAME", house.process(0, 3, 1), 0);
+        answers.due("process(1, 3, 0)", house.process(1, 3, 0), 77);
         answers.due("process(0, 4, 0)", house.process(0, 4, 0), 0);
         answers.due("process(0, -1, 0)", house.process(0, -1, 0), 0);
     }
@@ -119,5 +124,9 @@ public final class ProcessTest {
         }
         answers.due("count(5)", house.count(5), 3);
         answers.due("count(6)", house.count(6), 1);
+        house = answers.started("proc f(c:!int end,n){send c n;}proc h(c:?int end){recv c x;put x;}"
+                + "proc main(){spawn a h();spawn b h();spawn f(b,5);become f(a,6);}");
+        answers.due("run(60)", house.run(60), 1);
+        answers.due("output(0) and output(1)", house.output(0) * 10 + house.output(1), 56);
     }
 }

@@ -10,6 +10,15 @@ public final class ProgramTest {
         failedOnes(answers, "proc main(){send c 1;}", -10000 - 12);
         afterFailure(answers);
         fullTape(answers);
+        again(answers, "type A=", "!(A)", "end;proc main(){}");
+        again(answers, "proc main(){while x<1{x=x+1;}", "y=2;", "}");
+        again(answers, "type A=+{z end", ";@ A", "};proc main(){}");
+        again(answers, "proc main(){", "@=@+1;", "}");
+        again(answers, "proc f(z", ",@", "){}proc main(){}");
+        again(answers, "proc main(){", "if 1{}else{}", "}");
+        again(answers, "proc f(x,y){}proc main(){", "spawn f(1,2);", "}");
+        again(answers, "", "proc @(){}", "proc main(){}");
+        deepAfterDeep(answers);
         answers.finish("ProgramTest");
     }
 
@@ -81,5 +90,42 @@ public final class ProgramTest {
         answers.due("program() of 3000 bytes", Answers.read(text.toString()), 1);
         text.setCharAt(2999, ' ');
         answers.due("program() of 3000 bytes without }", Answers.read(text.toString()), -3001);
+    }
+
+    /** Three full TAPES on one object: what the earlier ones took is free again. */
+    private static void again(Answers answers, String first, String middle, String last) {
+        StringBuilder text = new StringBuilder(first);
+        for (int i = 0; text.length() + middle.length() + last.length() + 4 <= 3000; i++) {
+            String name = "" + (char) ('A' + i % 26) + (char) ('a' + i / 26 % 26) + (i < 676 ? "" : "0");
+            text.append(middle.replace("@", name));
+        }
+        text.append(last);
+        SessionHouse house = new SessionHouse();
+        int due = Answers.read(text.toString());
+        answers.due("program() of " + text.substring(0, 40), due >= 1 ? 1 : 0, 1);
+        for (int i = 0; i < 3; i++) {
+            Answers.tape(house, text.toString());
+            answers.due("program() of " + text.substring(0, 40) + ", time " + i, house.program(), due);
+        }
+        house.sizes(1, 10000);
+        answers.due("start()", house.start(), 0);
+        SessionHouse other = answers.loaded(text.toString());
+        other.sizes(1, 10000);
+        other.start();
+        answers.due("run(5)", house.run(5), other.run(5));
+        answers.due("run(20000)", house.run(20000), other.run(20000));
+        for (int what = 0; what <= 4; what++) {
+            answers.due("count(" + what + ")", house.count(what), other.count(what));
+        }
+        answers.due("types(0, 0, 0)", house.types(0, 0, 0), text.charAt(0) == 't' ? 1 : -1);
+        answers.due("types(0, 0, 1)", house.types(0, 0, 1), text.charAt(0) == 't' ? 0 : -1);
+    }
+
+    private static void deepAfterDeep(Answers answers) {
+        SessionHouse house = new SessionHouse();
+        Answers.tape(house, "proc main(){" + "while 1{".repeat(39) + "@");
+        answers.due("program()", house.program(), -1 - 12 - 8 * 39);
+        Answers.tape(house, "proc main(){" + "while 1{".repeat(39) + "}".repeat(40));
+        answers.due("program()", house.program(), 1);
     }
 }

@@ -6,6 +6,7 @@ public final class RunTest {
         visitByVisit(answers);
         ringOrder(answers);
         leavingTheRing(answers);
+        newOnesInPlaceOfOldOnes(answers);
         rowsThatAreFull(answers);
         rowsAreInOrder(answers);
         channelsOnTheWay(answers);
@@ -124,6 +125,7 @@ public final class RunTest {
                 + "pick c show;recv c x;put x;pick c quit;}");
         answers.due("run(200)", house.run(200), 1);
         puts(answers, house, 105, 112, -1);
+        answers.due("count(1): 12 of main, 4 becomes, 4 messages, 5 cases and a put of m", house.count(1), 12 + 4 + 4 + 5 + 1);
     }
 
     private static void noMoreInput(Answers answers) {
@@ -213,5 +215,43 @@ public final class RunTest {
         answers.due("run(100)", house.run(100), 1);
         puts(answers, house, 5, 2);
         answers.due("count(1): each round's choice is an ACT", house.count(1), 4 + 3 + 3 + 3 + 2 + 1 + 1 + 2 + 1);
+    }
+
+    /** What an earlier process or channel held is not seen by a later one. */
+    private static void newOnesInPlaceOfOldOnes(Answers answers) {
+        SessionHouse house = answers.started("proc a(n){put n;put n;put n;if n<4{spawn a(n+2);spawn a(n+1);}else{}put n;}"
+                + "proc main(){x=1;spawn a(1);}");
+        answers.due("run(200)", house.run(200), 1);
+        puts(answers, house, 1, 1, 1, 3, 3, 2, 1, 3, 2, 2, 5, 5, 4, 4, 3, 5, 4, 4, 3, 2, 4, 4, 3, 5, 3, 4, 4, 5, 5, 4, 3, 5, 4,
+                4, 5, 4);
+        house = answers.started("proc a(){x=1;x=2;}proc b(){while 1{}}proc main(){spawn a();x=1;x=2;x=3;x=4;spawn b();while 1{}}");
+        house.run(4);
+        answers.due("process(1, 0, 0)", house.process(1, 0, 0), 0);
+        answers.due("process(1, 2, 0)", house.process(1, 2, 0), 2);
+        house.run(6);
+        answers.due("process(1, 0, 0)", house.process(1, 0, 0), 1);
+        answers.due("process(1, 2, 0): its own ACTS alone", house.process(1, 2, 0), 1);
+        String talk = "type S=!int?int end;proc f(c:~S){recv c x;send c x+1;}proc main(){spawn c f();spawn d f();send d 5;"
+                + "recv d y;put y;spawn d f();spawn e f();send e 7;send d 6;send c 4;recv e y;put y;recv d y;put y;recv c y;put y;"
+                + "spawn e f();spawn d f();send d 1;send e 2;recv d y;put y;recv e y;put y;}";
+        house = answers.loaded(talk);
+        for (int n = 8; n >= 1; n--) {
+            house.sizes(n, 200);
+            house.start();
+            answers.due("run(7) with ROWS of " + n, house.run(7), 0);
+            house.start();
+            answers.due("run(300) with ROWS of " + n, house.run(300), 1);
+            puts(answers, house, 6, 8, 7, 5, 2, 3);
+        }
+        house = answers.loaded("type S=!int S;proc f(c:~S){recv c x;put x;become f(c);}proc g(c:S,n){send c n;become g(c,n+1);}"
+                + "proc main(){spawn c f();become g(c,10);}");
+        for (int n = 8; n >= 1; n--) {
+            house.sizes(n, 200);
+            house.start();
+            house.run(80 + n);
+            for (int i = 0; i < 10; i++) {
+                answers.due("output(" + i + ") with ROWS of " + n, house.output(i), 10 + i);
+            }
+        }
     }
 }

@@ -38,6 +38,11 @@ public final class WrongTest {
         answers.wrongAt("proc main(){x^==3;}");
         answers.wrongAt("proc main(){x=3==^=4;}");
         answers.good("\nproc\n\nmain ( ) { put\n1 ; }\n", 1);
+        answers.good("proc main(){A=1;Z=2;a=3;z=4;aAzZ09=5;}", 1);
+        answers.wrongAt("proc main(){^[=1;}");
+        answers.wrongAt("proc main(){^`=1;}");
+        answers.wrongAt("proc main(){^.;}");
+        answers.wrongAt("proc main(){x=1^>2;}");
         answers.good("proc main(){put 1==2;put 1<2;}", 1);
     }
 
