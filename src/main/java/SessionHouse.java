@@ -86,8 +86,8 @@ public final class SessionHouse {
     private static final int NO_MEMORY = 4;
 
     private final Ints tape = new Ints(TAPE);
-    private final Forms forms = new Forms();
-    private final Procs procs = new Procs();
+    private final Forms forms;
+    private final Procs procs;
     private final Reader reader;
     private final Checker checker;
     private final House house;
@@ -97,11 +97,15 @@ public final class SessionHouse {
     private boolean ready;
 
     public SessionHouse() {
+        Forms allForms = new Forms();
         Formulas formulas = new Formulas();
         Statements statements = new Statements();
-        reader = new Reader(forms, formulas, statements, procs);
-        checker = new Checker(forms, formulas, statements, procs);
-        house = new House(formulas, statements, procs);
+        Procs allProcs = new Procs();
+        reader = new Reader(allForms, formulas, statements, allProcs);
+        checker = new Checker(allForms, formulas, statements, allProcs);
+        house = new House(formulas, statements, allProcs);
+        forms = allForms;
+        procs = allProcs;
     }
 
     public int feed(int a, int b, int c, int d, int e) {

@@ -107,6 +107,8 @@ public final class BadTest {
         bad(answers, "c:C", "^case c{a{}b{recv c x;spawn c s1();}}");
         good(answers, "c:&{a S;b !int end}", "case c{a{}b{}}send c 1;");
         good(answers, "c:&{a E;b S}", "case c{a{}b{become s1(c);}}put 1;");
+        good(answers, "c:&{a R;b S}", "case c{a{}b{become s1(c);}}recv c x;");
+        good(answers, "c:&{b S;a R;d S}", "case c{b{become s1(c);}a{}d{become s1(c);}}recv c x;");
         bad(answers, "c:&{a S;b S}", "^case c{a{become s1(c);}b{become s1(c);}}put 1;");
         good(answers, "c:&{a S;b S}", "case c{a{become s1(c);}b{become s1(c);}}");
     }
@@ -168,6 +170,9 @@ public final class BadTest {
         bad(answers, "c:P", "^if 1{pick c a;}else{pick c b;}");
         good(answers, "c:S", "if 1{become s1(c);}else{send c 1;}put 1;");
         good(answers, "c:S", "if 1{send c 1;}else{become s1(c);}put 1;");
+        good(answers, "c:S", "if 1{}else{become s1(c);}send c 1;");
+        good(answers, "c:S", "if 1{become s1(c);}else{}send c 1;");
+        bad(answers, "c:S", "if 1{}else{become s1(c);}^put c;");
         good(answers, "c:S", "if 1{become s1(c);}else{become s1(c);}");
         bad(answers, "c:S", "^if 1{become s1(c);}else{become s1(c);}put 1;");
         bad(answers, "c:S", "if 1{^if 1{become s1(c);}else{become s1(c);}put 1;}else{}");

@@ -124,6 +124,12 @@ public final class ProcessTest {
         }
         answers.due("count(5)", house.count(5), 3);
         answers.due("count(6)", house.count(6), 1);
+        house = answers.started("proc f(n,c:!int end){while 1{}send c n;}proc h(c:?int end,n){while 1{}recv c x;}"
+                + "proc z(a,b,c,d,e,g,h,i,j){}proc main(){spawn z(1,2,3,4,5,6,7,8,9);spawn c h(1);spawn f(2,c);while 1{}}");
+        house.run(40);
+        for (int k = 0; k <= 2; k++) {
+            answers.due("process(" + k + ", 1, 0)", house.process(k, 1, 0), k == 0 ? 0 : 1);
+        }
         house = answers.started("proc f(c:!int end,n){send c n;}proc h(c:?int end){recv c x;put x;}"
                 + "proc main(){spawn a h();spawn b h();spawn f(b,5);become f(a,6);}");
         answers.due("run(60)", house.run(60), 1);

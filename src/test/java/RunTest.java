@@ -232,7 +232,7 @@ public final class RunTest {
         answers.due("process(1, 0, 0)", house.process(1, 0, 0), 1);
         answers.due("process(1, 2, 0): its own ACTS alone", house.process(1, 2, 0), 1);
         String talk = "type S=!int?int end;proc f(c:~S){recv c x;send c x+1;}proc main(){spawn c f();spawn d f();send d 5;"
-                + "recv d y;put y;spawn d f();spawn e f();send e 7;send d 6;send c 4;recv e y;put y;recv d y;put y;recv c y;put y;"
+                + "recv d y;put y;spawn d f();spawn e f();send d 6;send c 4;send e 7;recv e y;put y;recv d y;put y;recv c y;put y;"
                 + "spawn e f();spawn d f();send d 1;send e 2;recv d y;put y;recv e y;put y;}";
         house = answers.loaded(talk);
         for (int n = 8; n >= 1; n--) {
@@ -243,6 +243,15 @@ public final class RunTest {
             answers.due("run(300) with ROWS of " + n, house.run(300), 1);
             puts(answers, house, 6, 8, 7, 5, 2, 3);
         }
+        Answers.tape(house, "type S=!int end;proc f(c:S,n){send c n;}proc main(){spawn c f(3);recv c x;put x;}");
+        house.program();
+        house.start();
+        answers.due("run(300) of one channel", house.run(300), 1);
+        Answers.tape(house, talk);
+        house.program();
+        house.start();
+        answers.due("run(300) of more channels", house.run(300), 1);
+        puts(answers, house, 6, 8, 7, 5, 2, 3);
         house = answers.loaded("type S=!int S;proc f(c:~S){recv c x;put x;become f(c);}proc g(c:S,n){send c n;become g(c,n+1);}"
                 + "proc main(){spawn c f();become g(c,10);}");
         for (int n = 8; n >= 1; n--) {
