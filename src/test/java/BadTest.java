@@ -32,6 +32,7 @@ public final class BadTest {
     }
 
     private static void numbers(Answers answers) {
+        answers.about(4, "A NAME in an EXPRESSION, x of get, recv, and = is no channel");
         bad(answers, "c:S", "^c=1;send c 1;");
         bad(answers, "c:S", "^x=c;send c 1;");
         bad(answers, "c:S", "x=1;^x=1+(2*-c);send c 1;");
@@ -45,6 +46,7 @@ public final class BadTest {
     }
 
     private static void messages(Answers answers) {
+        answers.about(4, "send: c is a channel of TYPE ! int T, which becomes T. recv: of ? int T; x is no channel");
         bad(answers, "", "^send c 1;");
         bad(answers, "c", "^send c 1;");
         bad(answers, "c:R", "^send c 1;");
@@ -63,6 +65,7 @@ public final class BadTest {
     }
 
     private static void channelsAsMessages(Answers answers) {
+        answers.about(4, "pass c d: d is another one, EQUAL to S; d is none any more. take c d: d is no channel");
         good(answers, "c:G,d:S", "pass c d;d=1;c=2;");
         good(answers, "c:G,d:~R", "pass c d;");
         good(answers, "c:~T,d:S", "pass c d;");
@@ -87,6 +90,7 @@ public final class BadTest {
     }
 
     private static void choices(Answers answers) {
+        answers.about(4, "pick: of + { .. L T .. }. case: of & { .. }; the LABELS are just those of it");
         good(answers, "c:P", "pick c a;");
         good(answers, "c:P", "pick c b;send c 1;");
         bad(answers, "c:P", "^pick c z;");
@@ -114,6 +118,7 @@ public final class BadTest {
     }
 
     private static void calls(Answers answers) {
+        answers.about(4, "spawn, become: as many ARGUMENTS as the proc has PARAMETERS");
         good(answers, "c:S,d:~R", "spawn s2(c,d);c=1;d=2;");
         good(answers, "c:S", "spawn sn(c,1+2);");
         good(answers, "", "spawn n0();spawn n1(x);spawn n2((y),x<y);");
@@ -135,6 +140,7 @@ public final class BadTest {
     }
 
     private static void newChannels(Answers answers) {
+        answers.about(4, "spawn c NAME: c is no channel (behind that) and becomes one, DUAL to the first PARAMETER's TYPE");
         good(answers, "", "spawn c s1();recv c x;");
         good(answers, "", "spawn c sn(5);recv c x;");
         good(answers, "c", "spawn c s1();recv c x;put c;");
@@ -153,6 +159,7 @@ public final class BadTest {
     }
 
     private static void becoming(Answers answers) {
+        answers.about(4, "become: no channels are left behind it, and it is the last STATEMENT of its BLOCK");
         good(answers, "c:S", "become s1(c);");
         good(answers, "c:S,d:S", "become s2(d,c);");
         bad(answers, "c:S,d:S", "^become s1(c);");
@@ -165,6 +172,7 @@ public final class BadTest {
     }
 
     private static void ifs(Answers answers) {
+        answers.about(4, "if: of the two BLOCKS those that do not go away end with the same channels, EQUAL by each NAME");
         good(answers, "c:S", "if 1{send c 1;}else{send c 2;}");
         bad(answers, "c:S", "^if 1{send c 1;}else{}send c 1;");
         bad(answers, "c:P", "^if 1{pick c a;}else{pick c b;}");
@@ -188,6 +196,7 @@ public final class BadTest {
     }
 
     private static void whiles(Answers answers) {
+        answers.about(4, "while: its BLOCK goes away, or ends with the channels (EQUAL) with which it began");
         good(answers, "c:L", "while 1{pick c on;send c 1;}pick c off;");
         good(answers, "c:L", "while 1{pick c on;while 1{}send c 1;}pick c off;");
         good(answers, "c:L", "while 1{pick c on;if 1{}else{}send c 1;}pick c off;");
@@ -202,6 +211,7 @@ public final class BadTest {
     }
 
     private static void procEnds(Answers answers) {
+        answers.about(4, "A proc whose BLOCK does not go away has no channels at its end; else its end (its }) is BAD");
         bad(answers, "c:S", "^");
         bad(answers, "c:S", "put 1;^");
         bad(answers, "", "spawn c s1();^");
@@ -214,6 +224,7 @@ public final class BadTest {
     }
 
     private static void order(Answers answers) {
+        answers.about(4, "The first BAD one is told");
         bad(answers, "c:S", "if 1{^put c;}else{send c 1;}");
         bad(answers, "c:S", "if 1{send c 1;}else{^put c;}");
         bad(answers, "c:S", "^if c{put c;}else{}");

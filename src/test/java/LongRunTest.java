@@ -11,16 +11,9 @@ public final class LongRunTest {
         answers.finish("LongRunTest");
     }
 
-    private static int runOn(SessionHouse house, int times) {
-        int ended = 0;
-        for (int i = 0; i < times && ended == 0; i++) {
-            ended = house.run(20000);
-        }
-        return ended;
-    }
-
     /** Thousands of short processes; three that stay keep their numbers and channels. */
     private static void oneAfterTheOther(Answers answers) {
+        answers.about(8, "spawn: a process of the proc, with what is told");
         SessionHouse house = answers.loaded("type S=!int end;proc w(c:S,n){b=n;d=b*2;e=d+7;f=e;become v(c,f,n);}"
                 + "proc v(c:S,p,q){g=p-q;h=g;i=h;j=i;send c j;}"
                 + "proc keep(c:~S,a){z=a*3;while 0==a%7{}recv c y;put y*z;while 1{}}"
@@ -29,7 +22,7 @@ public final class LongRunTest {
         house.sizes(3, 100);
         for (int times = 0; times < 2; times++) {
             house.start();
-            answers.due("run(20000), again and again", runOn(house, 12), 0);
+            answers.due("run(20000), again and again", Answers.runOn(house, 12), 0);
             answers.due("count(3)", house.count(3), 3 + MANY);
             answers.due("count(7)", house.count(7), MANY / 10 + 3);
             for (int i = 0; i < MANY / 10; i += 7) {
@@ -49,18 +42,19 @@ public final class LongRunTest {
 
     /** Each waits for the next one's answer: 700 processes and channels at once. */
     private static void manyAtOnce(Answers answers) {
+        answers.about(8, "4 MEMORY would be more than told");
         SessionHouse house = answers.loaded("type S=!int end;"
                 + "proc f(c:S,n){if n{spawn d f(n-1);recv d x;send c x+n;}else{send c 0;}}"
                 + "proc main(){spawn c f(700);recv c x;put x;}");
         house.sizes(1, 6 + 701 * 14);
         house.start();
-        answers.due("run(20000), again and again", runOn(house, 60), 1);
+        answers.due("run(20000), again and again", Answers.runOn(house, 60), 1);
         answers.due("output(0)", house.output(0), 700 * 701 / 2);
         answers.due("count(3)", house.count(3), 702);
         answers.due("count(4)", house.count(4), 0);
         house.sizes(1, 6 + 701 * 14 - 1);
         house.start();
-        answers.due("run(20000) with a cell too little", runOn(house, 60), 4);
+        answers.due("run(20000) with a cell too little", Answers.runOn(house, 60), 4);
         answers.due("count(2)", house.count(2), 701);
         answers.due("count(5)", house.count(5), 700);
         answers.due("process(700, 3, 1)", house.process(700, 3, 1), 1);
@@ -70,22 +64,24 @@ public final class LongRunTest {
 
     /** 2500 processes of four cells; each makes the next one and waits. */
     private static void asManyAsFit(Answers answers) {
+        answers.about(8, "4 MEMORY would be more than told");
         SessionHouse house = answers.loaded("proc main(){spawn main();spawn main();while 1{}}");
         house.sizes(8, 10000);
         house.start();
-        answers.due("run(20000), again and again", runOn(house, 3), 4);
+        answers.due("run(20000), again and again", Answers.runOn(house, 3), 4);
         answers.due("count(2)", house.count(2), 2500);
         answers.due("count(4)", house.count(4), 10000);
         answers.due("process(2499, 0, 0)", house.process(2499, 0, 0), 0);
         answers.due("process(2500, 0, 0)", house.process(2500, 0, 0), -1);
         house.sizes(8, 9999);
         house.start();
-        answers.due("run(20000), again and again", runOn(house, 3), 4);
+        answers.due("run(20000), again and again", Answers.runOn(house, 3), 4);
         answers.due("count(2)", house.count(2), 2499);
     }
 
     /** Some INPUT is always left to be read while it goes round. */
     private static void inputGoesRound(Answers answers) {
+        answers.about(6, "Three numbers behind the INPUT");
         SessionHouse house = answers.started("proc main(){while 1{get x;put x;}}");
         house.input(0, 1, 2);
         house.input(3, 4, 5);

@@ -1,79 +1,82 @@
-/** Promise 9: output, and what EXPRESSIONS come out as. */
+/** Promise 9: output. */
 public final class OutputTest {
+    private static final String THREES = "proc main(){while 1{x=x+3;put x;}}";
+
     public static void main(String[] args) {
         Answers answers = new Answers();
+        theOnesThatWerePut(answers);
+        noneThere(answers);
         fiveHundred(answers);
-        expressions(answers);
+        firstOnesAreKept(answers);
+        ofThisRunAlone(answers);
         answers.finish("OutputTest");
     }
 
-    private static void fiveHundred(Answers answers) {
-        SessionHouse house = answers.started("proc main(){while 1{x=x+3;put x;}}");
-        answers.due("output(0)", house.output(0), 0);
+    private static void theOnesThatWerePut(Answers answers) {
+        answers.about(9, "The i-th number that was put (from 0)");
+        SessionHouse house = answers.started("proc f(n){put n;put -n;}proc main(){spawn f(5);put 1;put -999999999*2-147483650;put 0;}");
+        answers.due("run(20)", house.run(20), 1);
+        answers.puts(house, 5, 1, -5, Integer.MIN_VALUE, 0);
+    }
+
+    private static void noneThere(Answers answers) {
+        answers.about(9, "0 if there is none");
+        SessionHouse house = new SessionHouse();
+        int[] places = {0, 1, -1, 499, 500, 501, Integer.MAX_VALUE, Integer.MIN_VALUE};
+        for (int i : places) {
+            answers.due("output(" + i + ") of a new object", house.output(i), 0);
+        }
+        house = answers.started(THREES);
+        for (int i : places) {
+            answers.due("output(" + i + ") of a new run", house.output(i), 0);
+        }
         house.run(3);
         answers.due("output(0)", house.output(0), 3);
-        answers.due("output(1), which is not there yet", house.output(1), 0);
-        answers.due("output(-1)", house.output(-1), 0);
-        house.run(3 * 499 - 1);
+        for (int k = 1; k < places.length; k++) {
+            answers.due("output(" + places[k] + ") with one that was put", house.output(places[k]), 0);
+        }
+    }
+
+    private static void fiveHundred(Answers answers) {
+        answers.about(9, "500 are kept");
+        SessionHouse house = answers.started(THREES);
+        house.run(3 * 499);
         answers.due("count(7)", house.count(7), 499);
-        answers.due("output(499)", house.output(499), 0);
-        house.run(4);
-        answers.due("count(7)", house.count(7), 501);
+        answers.due("output(498)", house.output(498), 3 * 499);
+        answers.due("output(499), which is not there yet", house.output(499), 0);
+        house.run(3);
+        answers.due("count(7)", house.count(7), 500);
         answers.due("output(499), the last one that is kept", house.output(499), 1500);
         answers.due("output(500)", house.output(500), 0);
-        answers.due("output(0)", house.output(0), 3);
-        house.run(20000);
-        answers.due("output(0)", house.output(0), 3);
+        house.run(3);
+        answers.due("count(7)", house.count(7), 501);
+        answers.due("output(500), which is not kept", house.output(500), 0);
         answers.due("output(499)", house.output(499), 1500);
-        answers.due("output(greatest)", house.output(Integer.MAX_VALUE), 0);
-        answers.due("output(least)", house.output(Integer.MIN_VALUE), 0);
+    }
+
+    private static void firstOnesAreKept(Answers answers) {
+        answers.about(9, "The i-th number that was put (from 0; 500 are kept)");
+        SessionHouse house = answers.started(THREES);
+        house.run(20000);
+        answers.due("count(7) counts all", house.count(7), 6666);
+        for (int i = 0; i < 500; i++) {
+            answers.due("output(" + i + ")", house.output(i), 3 * i + 3);
+        }
+        answers.due("output(6665)", house.output(6665), 0);
+        answers.due("run(1): the run goes on", house.run(1), 0);
+    }
+
+    private static void ofThisRunAlone(Answers answers) {
+        answers.about(9, "0 if there is none");
+        SessionHouse house = answers.started(THREES);
+        house.run(20000);
         house.start();
         answers.due("output(0) of the next run", house.output(0), 0);
-    }
-
-    private static void value(Answers answers, String expression, int due) {
-        SessionHouse house = answers.started("proc main(){a=7;b=-3;m=-214748364*10-8;put " + expression + ";}");
-        house.run(5);
-        answers.due(expression, house.output(0), due);
-    }
-
-    private static void expressions(Answers answers) {
-        value(answers, "42", 42);
-        value(answers, "999999999", 999999999);
-        value(answers, "007", 7);
-        value(answers, "a", 7);
-        value(answers, "nothing", 0);
-        value(answers, "10-3-2", 5);
-        value(answers, "10-(3-2)", 9);
-        value(answers, "2+3*4", 14);
-        value(answers, "(2+3)*4", 20);
-        value(answers, "100/7/2", 7);
-        value(answers, "100/7*2", 28);
-        value(answers, "100%7*2", 4);
-        value(answers, "a/b", -2);
-        value(answers, "-a/2", -3);
-        value(answers, "a%b", 1);
-        value(answers, "-a%3", -1);
-        value(answers, "m/-1", Integer.MIN_VALUE);
-        value(answers, "m%-1", 0);
-        value(answers, "-m", Integer.MIN_VALUE);
-        value(answers, "m-1", Integer.MAX_VALUE);
-        value(answers, "m*3", Integer.MIN_VALUE);
-        value(answers, "999999999*999999999", 999999999 * 999999999);
-        value(answers, "a*b-b*a", 0);
-        value(answers, "b<a", 1);
-        value(answers, "a<b", 0);
-        value(answers, "a<a", 0);
-        value(answers, "m<0", 1);
-        value(answers, "a==7", 1);
-        value(answers, "a==b", 0);
-        value(answers, "1+1==2", 1);
-        value(answers, "1<2+b", 0);
-        value(answers, "(1<2)+(3==3)*2", 3);
-        value(answers, "--a", 7);
-        value(answers, "-(-a-1)", 8);
-        value(answers, "1--1", 2);
-        value(answers, "-2*-3", 6);
-        value(answers, "((((a))))", 7);
+        answers.due("output(499) of the next run", house.output(499), 0);
+        house.run(3);
+        answers.due("output(0)", house.output(0), 3);
+        answers.due("output(1)", house.output(1), 0);
+        Answers.readBy(house, "proc main(){put 1;}");
+        answers.due("output(0) behind program()", house.output(0), 0);
     }
 }

@@ -12,10 +12,16 @@ public final class ProcessTest {
         numbersAndChannelsByOneName(answers);
         behindBecome(answers);
         givenAway(answers);
+        firstAndLastInTheRing(answers);
+        firstAndLastName(answers);
+        noneBehindTheEnd(answers);
+        blockedOnesDoNoActs(answers);
+        channelsComeAndGo(answers);
         answers.finish("ProcessTest");
     }
 
     private static void eachWhat(Answers answers) {
+        answers.about(11, "what = 0 which proc it runs; 1 how many channels it has; 2 ACTS that it did; 3 the number by the j-th different NAME");
         SessionHouse house = answers.started(TEXT);
         house.run(20);
         answers.due("process(0, 0, 0)", house.process(0, 0, 0), 1);
@@ -36,6 +42,7 @@ public final class ProcessTest {
     }
 
     private static void noneSuch(Answers answers) {
+        answers.about(11, "-1 with what 0: there is none such; else 0 there");
         SessionHouse house = answers.loaded(TEXT);
         answers.due("process(0, 0, 0) ahead of a run", house.process(0, 0, 0), -1);
         answers.due("process(0, 2, 0) ahead of a run", house.process(0, 2, 0), 0);
@@ -63,6 +70,7 @@ public final class ProcessTest {
     }
 
     private static void asTheyWereMade(Answers answers) {
+        answers.about(11, "Of the k-th process in the RING (from 0, as they were made)");
         SessionHouse house = answers.started("proc f(n){while n{n=n-1;}}proc g(){while 1{}}"
                 + "proc main(){spawn g();spawn f(2);spawn g();spawn f(100);spawn f(50);}");
         house.run(60);
@@ -77,6 +85,7 @@ public final class ProcessTest {
 
     /** LABELS and procs' NAMES are none; each NAME counts where it stands first. */
     private static void namesInOrder(Answers answers) {
+        answers.about(11, "PARAMETERS as they stand, then as they stand first in its BLOCK");
         SessionHouse house = answers.started("type C=&{l end};proc f(c:C,b,a){d=2;case c{l{e=3;}}while 1{l=4;b=f;}}"
                 + "proc w(c:~C){pick c l;}proc main(){spawn c w();become f(c,8,9);}");
         house.run(60);
@@ -89,6 +98,7 @@ public final class ProcessTest {
     }
 
     private static void numbersAndChannelsByOneName(Answers answers) {
+        answers.about(11, "0 for those that were used as channels alone");
         SessionHouse house = answers.started("type S=!int end;proc f(c:S){send c 1;}"
                 + "proc main(){c=6;spawn c f();while x<9{x=x+1;}recv c y;put c;while 1{}}");
         house.run(4);
@@ -100,6 +110,7 @@ public final class ProcessTest {
     }
 
     private static void behindBecome(Answers answers) {
+        answers.about(11, "0 which proc it runs; 2 ACTS that it did");
         SessionHouse house = answers.started("proc f(n){x=n;while 1{}}proc main(){x=1;y=2;become f(5);}");
         house.run(4);
         answers.due("process(0, 0, 0)", house.process(0, 0, 0), 0);
@@ -112,6 +123,7 @@ public final class ProcessTest {
 
     /** The channel is of the first TYPE in the text, which is told with the PARAMETER itself. */
     private static void givenAway(Answers answers) {
+        answers.about(11, "1 how many channels it has");
         SessionHouse house = answers.started("proc f(c:!int end){while 1{}send c 1;}proc g(c:!(!int end)end,d:!int end){pass c d;}"
                 + "proc h(c:?int end){while 1{}recv c x;}proc k(c:?(!int end)end){while 1{}take c d;send d 1;}"
                 + "proc main(){spawn c h();spawn d k();spawn e h();spawn f(c);pass d e;while 1{}}");
@@ -134,5 +146,82 @@ public final class ProcessTest {
                 + "proc main(){spawn a h();spawn b h();spawn f(b,5);become f(a,6);}");
         answers.due("run(60)", house.run(60), 1);
         answers.due("output(0) and output(1)", house.output(0) * 10 + house.output(1), 56);
+    }
+
+    /** k below 0, the first one, the last one, and one too far, in rings of 1 to 5. */
+    private static void firstAndLastInTheRing(Answers answers) {
+        answers.about(11, "Of the k-th process in the RING (from 0) .. -1 with what 0: there is none such; else 0 there");
+        SessionHouse house = answers.started("proc f(n){while 1{x=n;}}proc main(){x=9;spawn f(1);spawn f(2);spawn f(3);spawn f(4);"
+                + "while 1{}}");
+        for (int many = 1; many <= 5; many++) {
+            for (int i = 0; i < 60 && house.count(2) < many; i++) {
+                house.run(1);
+            }
+            answers.due("count(2)", house.count(2), many);
+            answers.due("process(-1, 0, 0)", house.process(-1, 0, 0), -1);
+            answers.due("process(0, 0, 0)", house.process(0, 0, 0), 1);
+            answers.due("the last one", house.process(many - 1, 0, 0), many == 1 ? 1 : 0);
+            answers.due("what the last one was told", house.process(many - 1, 3, 0), many == 1 ? 0 : many - 1);
+            for (int what = 0; what <= 3; what++) {
+                answers.due("one too far, what " + what, house.process(many, what, 0), what == 0 ? -1 : 0);
+            }
+        }
+    }
+
+    private static void firstAndLastName(Answers answers) {
+        answers.about(11, "3 the number by the j-th different NAME of its proc");
+        SessionHouse house = answers.started("proc f(a,b){c=3;a=a;d=4;while 1{}}proc main(){become f(1,2);}");
+        house.run(9);
+        int[] due = {1, 2, 3, 4};
+        for (int j = 0; j < due.length; j++) {
+            answers.due("process(0, 3, " + j + ")", house.process(0, 3, j), due[j]);
+        }
+        int[] outside = {-1, 4, 5, 100000, Integer.MIN_VALUE, Integer.MAX_VALUE};
+        for (int j : outside) {
+            answers.due("process(0, 3, " + j + ")", house.process(0, 3, j), 0);
+        }
+        house = answers.started("proc main(){while 1{}}");
+        answers.due("process(0, 3, 0) without NAMES", house.process(0, 3, 0), 0);
+    }
+
+    private static void noneBehindTheEnd(Answers answers) {
+        answers.about(11, "-1 with what 0: there is none such");
+        SessionHouse house = answers.started("proc main(){x=7;}");
+        answers.due("process(0, 0, 0)", house.process(0, 0, 0), 0);
+        house.run(1);
+        answers.due("process(0, 3, 0)", house.process(0, 3, 0), 7);
+        answers.due("run(1)", house.run(1), 1);
+        answers.due("process(0, 0, 0) when it is OVER", house.process(0, 0, 0), -1);
+        answers.due("process(0, 2, 0)", house.process(0, 2, 0), 0);
+        answers.due("process(0, 3, 0)", house.process(0, 3, 0), 0);
+        house = answers.started("proc main(){x=7;get x;}");
+        house.run(9);
+        answers.due("process(0, 0, 0) behind END 2", house.process(0, 0, 0), 0);
+        answers.due("process(0, 3, 0) behind END 2", house.process(0, 3, 0), 7);
+    }
+
+    private static void blockedOnesDoNoActs(Answers answers) {
+        answers.about(11, "2 ACTS that it did");
+        SessionHouse house = answers.started("type S=!int end;proc f(c:~S){recv c x;while 1{}}proc main(){spawn c f();x=1;x=2;send c 1;}");
+        house.run(6);
+        answers.due("main", house.process(0, 2, 0), 3);
+        answers.due("f, which is BLOCKED", house.process(1, 2, 0), 0);
+        house.run(2);
+        answers.due("f", house.process(1, 2, 0), 1);
+        answers.due("count(1)", house.count(1), 5);
+    }
+
+    private static void channelsComeAndGo(Answers answers) {
+        answers.about(11, "1 how many channels it has");
+        SessionHouse house = answers.started("type S=!int end;proc f(c:S){send c 1;}proc main(){spawn a f();spawn b f();spawn c f();"
+                + "recv b x;recv a x;recv c x;while 1{}}");
+        int[] due = {0, 1, 1, 2};
+        for (int visits = 0; visits < due.length; visits++) {
+            answers.due("main behind " + visits + " VISITS", house.process(0, 1, 0), due[visits]);
+            house.run(1);
+        }
+        house.run(60);
+        answers.due("main behind its last recv", house.process(0, 1, 0), 0);
+        answers.due("count(2)", house.count(2), 1);
     }
 }

@@ -18,6 +18,7 @@ public final class WrongTest {
     }
 
     private static void words(Answers answers) {
+        answers.about(4, "the first byte of a word that can't stand there");
         answers.wrongAt("^");
         answers.wrongAt(" \n ^");
         answers.wrongAt("^\tproc main(){}");
@@ -47,6 +48,7 @@ public final class WrongTest {
     }
 
     private static void programs(Answers answers) {
+        answers.about(4, "PROGRAM: one or more of: type NAME = TYPE ; or proc NAME ( PARAMETERS ) BLOCK");
         answers.wrongAt("^main(){}");
         answers.wrongAt(MAIN + "^;");
         answers.wrongAt("type A=end ^proc main(){}");
@@ -66,6 +68,7 @@ public final class WrongTest {
     }
 
     private static void types(Answers answers) {
+        answers.about(4, "TYPE: end; NAME; ~ NAME; ! or ? and int, or ( TYPE ), and a TYPE; + or & and { ALTERNATIVES }");
         answers.wrongAt("type ^=end;");
         answers.wrongAt("type A ^end;");
         answers.wrongAt("type A=^;");
@@ -90,6 +93,7 @@ public final class WrongTest {
     }
 
     private static void statements(Answers answers) {
+        answers.about(4, "BLOCK: { STATEMENTS }, none or more");
         String[] texts = {
             "^;", "^else{}", "^type", "^end", "^3", "^{}", "x^;", "x=^;", "x=1^", "x=1^,", "send ^1;", "send c^;",
             "send c 1 ^2;", "recv c^;", "recv c ^1;", "recv c x^,", "pass c^;", "pass c d ^e;",
@@ -107,6 +111,7 @@ public final class WrongTest {
     }
 
     private static void expressions(Answers answers) {
+        answers.about(4, "EXPRESSION: a SUM, perhaps < or == and a SUM");
         String[] texts = {
             "^+1", "1+^", "1+^+2", "1*^*2", "(^)", "(1^;", "1^)", "1<2^<3", "1==2^==3", "1<2^==3", "-^", "1-^",
             "1^!2", "1 ^2", "x ^x", "^end", "1%^/2", "(1<2^<3)", "^~x", "-(^)"
@@ -118,6 +123,7 @@ public final class WrongTest {
     }
 
     private static void sameNames(Answers answers) {
+        answers.about(4, "the second of two same NAMES of types, of procs, of PARAMETERS of one proc, of LABELS of one + & or case");
         answers.wrongAt("type A=end;type ^A=end;" + MAIN);
         answers.wrongAt("type A=end;type ^A;" + MAIN);
         answers.wrongAt("proc f(){}" + MAIN + "proc ^f(){}");
@@ -132,6 +138,7 @@ public final class WrongTest {
     }
 
     private static void depth(Answers answers) {
+        answers.about(4, "the word that opens a 41st { or ( , or - of an ATOM, in one another (to its end)");
         String open = "(".repeat(39);
         String close = ")".repeat(39);
         answers.good("proc main(){put " + open + "1" + close + ";}", 1);
@@ -153,6 +160,7 @@ public final class WrongTest {
     }
 
     private static void lackingNames(Answers answers) {
+        answers.about(4, "at the first NAME (in the text) in a TYPE that is no type's, behind spawn or become that is no proc's");
         answers.wrongAt("type A=^B;" + MAIN);
         answers.wrongAt("type A=~^B;" + MAIN);
         answers.wrongAt("type A=!(^B)C;" + MAIN);
@@ -168,6 +176,7 @@ public final class WrongTest {
     }
 
     private static void loops(Answers answers) {
+        answers.about(4, "at the first type's NAME that leads to itself by NAMES and ~ NAMES alone");
         answers.wrongAt("type ^A=A;" + MAIN);
         answers.wrongAt("type ^A=~A;" + MAIN);
         answers.wrongAt("type C=end;type ^A=B;type B=~A;" + MAIN);
@@ -178,6 +187,7 @@ public final class WrongTest {
     }
 
     private static void mains(Answers answers) {
+        answers.about(4, "at the TAPE's length, if there is no proc main, or it has PARAMETERS");
         answers.wrongAt("proc f(){}^");
         answers.wrongAt("type main=end; ^");
         answers.wrongAt("proc main(x){}^");
