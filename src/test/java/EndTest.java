@@ -6,6 +6,7 @@ public final class EndTest {
         notSoMany(answers);
         belowNought(answers);
         firstBytesAreKept(answers);
+        cutInsideAWord(answers);
         answers.finish("EndTest");
     }
 
@@ -68,5 +69,24 @@ public final class EndTest {
         house.start();
         house.run(5);
         answers.due("output(0)", house.output(0), 12);
+    }
+
+    /** What stood behind the n-th byte belongs to no word any more. */
+    private static void cutInsideAWord(Answers answers) {
+        answers.about(3, "The TAPE keeps its first n bytes");
+        cut(answers, "pro", "c main(){}", -1);
+        cut(answers, "proc main(){}pro", "c f(){}", -1 - 13);
+        cut(answers, "proc main(){x=", "=1;}", -1 - 14);
+        cut(answers, "proc main(){put 123456789", "0;}", -1 - 25);
+        cut(answers, "type A=e", "nd;proc main(){}", -1 - 8);
+        cut(answers, "proc main(){}", "@", 1);
+        cut(answers, "proc main(){}", "x", 1);
+    }
+
+    private static void cut(Answers answers, String kept, String gone, int due) {
+        SessionHouse house = new SessionHouse();
+        Answers.tape(house, kept + gone);
+        answers.due("end()", house.end(kept.length()), kept.length());
+        answers.due("program() of " + kept + ", which was cut off", house.program(), due);
     }
 }

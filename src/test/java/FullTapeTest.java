@@ -12,6 +12,7 @@ public final class FullTapeTest {
         manyLabels(answers);
         manyNamesInDeepBlocks(answers);
         manyValuesWaiting(answers);
+        badInDeepBlocks(answers);
         answers.finish("FullTapeTest");
     }
 
@@ -47,21 +48,25 @@ public final class FullTapeTest {
         answers.about(4, "The TAPE is the program");
         again(answers, 0, 0, "type A=", "!(A)", "end;proc main(){}");
         again(answers, 0, 0, "type A=", "!int ", "A;proc main(){}");
-        again(answers, 0, 0, "type A=+{z end", ";@ A", "};proc main(){}");
+        again(answers, 0, 0, "type A=+{z end", ";@ A", ";y end};proc f(c:A){pick c y;}proc main(){}");
+        again(answers, 0, 0, "type A=&{z end", ";@ end", "};proc f(c:+{a A}){pick c a;become g(c);}proc g(c:A){become g(c);}"
+                + "proc main(){}");
         again(answers, 0, 0, "type S=end;", "type @=~S;", "proc main(){}");
         again(answers, 0, 0, "", "proc @(){}", "proc main(){}");
-        again(answers, 0, 0, "proc f(z", ",@", "){}proc main(){}");
+        again(answers, 0, 0, "proc f(z", ",@", ",c:!int end){send c z;}proc main(){}");
         again(answers, 0, 1, "proc f(){}proc main(){", "spawn f();", "}");
-        again(answers, 0, 1, "proc f(x,y){}proc main(){", "spawn f(1,2);", "}");
+        again(answers, 0, 2, "proc f(x,y){put x*4-y;}proc main(){", "spawn f(1,3);", "}");
         again(answers, 3, 1, "proc main(){while x<1{x=x+1;}", "y=2;", "}");
         again(answers, 0, 1, "proc main(){", "@=@+1;", "}");
         again(answers, 0, 1, "proc main(){", "if 1{}else{}", "}");
+        again(answers, 0, 2, "proc main(){", "if 1{put 1;}else{}", "}");
         again(answers, 0, 1, "proc main(){", "while 0{}", "}");
         again(answers, 1, 0, "proc main(){put 1", "*1", ";}");
         again(answers, 1, 0, "proc main(){put 1", "+@", ";}");
+        again(answers, 1, 0, "proc main(){put 1", "-@+1-1", ";}");
     }
 
-    /** Three full TAPES on one object: what the earlier ones took is free again. */
+    /** Six full TAPES on one object: what the earlier ones took is free again; all that is put is 1. */
     private static void again(Answers answers, int acts, int actsEach, String first, String middle, String last) {
         StringBuilder text = new StringBuilder(first);
         int pieces = 0;
@@ -72,13 +77,16 @@ public final class FullTapeTest {
         int procs = text.toString().split("proc ", -1).length - 1;
         String about = text.substring(0, 30) + " .. of " + pieces + " pieces";
         SessionHouse house = new SessionHouse();
-        for (int i = 0; i < 3; i++) {
+        for (int i = 0; i < 6; i++) {
             answers.due("program() of " + about + ", time " + i, Answers.readBy(house, text.toString()), procs);
         }
         house.sizes(1, 10000);
         answers.due("start() of " + about, house.start(), 0);
         answers.due("run(20000) of " + about, house.run(20000), 1);
         answers.due("count(1) of " + about, house.count(1), acts + actsEach * pieces);
+        for (int i = 0; i < Math.min(house.count(7), 500); i++) {
+            answers.due("output(" + i + ") of " + about, house.output(i), 1);
+        }
         boolean hasType = text.charAt(0) == 't';
         answers.due("types(0, 0, 0) of " + about, house.types(0, 0, 0), hasType ? 1 : -1);
         answers.due("types(0, 0, 1) of " + about, house.types(0, 0, 1), !hasType ? -1 : first.contains("=end;") ? 1 : 0);
@@ -131,9 +139,11 @@ public final class FullTapeTest {
             type.append(';').append(Answers.name(many)).append(" end");
             cases.append(Answers.name(many)).append("{put ").append(many).append(";}");
         }
-        for (int i = 0; i < many; i += many - 1) {
-            SessionHouse house = answers.started(type + "};proc f(c:~S){case c{" + cases
-                    + "}}proc main(){spawn c f();pick c " + Answers.name(i) + ";}");
+        SessionHouse house = new SessionHouse();
+        for (int i = 0; i < many; i += (many - 1) / 2) {
+            answers.due("program()", Answers.readBy(house, type + "};proc f(c:~S){case c{" + cases
+                    + "}}proc main(){spawn c f();pick c " + Answers.name(i) + ";}"), 2);
+            answers.due("start()", house.start(), 0);
             answers.due("run(9)", house.run(9), 1);
             answers.puts(house, i);
         }
@@ -163,5 +173,20 @@ public final class FullTapeTest {
         house = answers.started("proc main(){put " + "1==3-2*-(".repeat(19) + "-1" + ")".repeat(19) + ";}");
         house.run(1);
         answers.due("output(0): 1 == 3-2*1 once, then 1 == 3-2*-1", house.output(0), 0);
+    }
+
+    /** The innermost of forty BLOCKS is checked like the outermost one, and so are all on the way. */
+    private static void badInDeepBlocks(Answers answers) {
+        answers.about(4, "A STATEMENT that holds others is looked at ahead of them");
+        String main = "proc main(){}";
+        answers.badAt("proc f(){" + "if 1{".repeat(39) + "^send c 1;" + "}else{}".repeat(39) + "}" + main);
+        answers.badAt("proc f(){" + "if 1{}else{".repeat(39) + "^send c 1;" + "}".repeat(39) + "}" + main);
+        answers.badAt("proc f(){" + "while 1{".repeat(39) + "^send c 1;" + "}".repeat(39) + "}" + main);
+        answers.badAt("type C=&{a C;b C};proc f(c:C){" + "case c{b{become f(c);}a{".repeat(19) + "^send c 1;" + "}}".repeat(19) + "}"
+                + main);
+        answers.good("type C=&{a C;b C};proc f(c:C){" + "case c{b{become f(c);}a{".repeat(19) + "become f(c);" + "}}".repeat(19) + "}"
+                + main, 2);
+        answers.badAt("proc f(c:!int end){" + "if 1{".repeat(38) + "^if 1{send c 1;}else{}" + "}else{}".repeat(38) + "send c 1;}" + main);
+        answers.good("proc f(c:!int end){" + "if 1{".repeat(39) + "send c 1;" + "}else{send c 2;}".repeat(39) + "}" + main, 2);
     }
 }

@@ -53,9 +53,18 @@ public final class LongRunTest {
         answers.due("count(3)", house.count(3), 702);
         answers.due("count(4)", house.count(4), 0);
         house.sizes(1, 6 + 701 * 14 - 1);
+        for (int times = 0; times < 3; times++) {
+            answers.due("start()", house.start(), 0);
+            answers.due("run(20000) with a cell too little", Answers.runOn(house, 60), 4);
+            answers.due("count(2)", house.count(2), 701);
+        }
+        house.sizes(1, 6 + 701 * 14);
         house.start();
-        answers.due("run(20000) with a cell too little", Answers.runOn(house, 60), 4);
-        answers.due("count(2)", house.count(2), 701);
+        answers.due("run(20000) behind three that left all their channels", Answers.runOn(house, 60), 1);
+        answers.due("output(0)", house.output(0), 700 * 701 / 2);
+        house.sizes(1, 6 + 701 * 14 - 1);
+        house.start();
+        Answers.runOn(house, 60);
         answers.due("count(5)", house.count(5), 700);
         answers.due("process(700, 3, 1)", house.process(700, 3, 1), 1);
         answers.due("process(1, 3, 1)", house.process(1, 3, 1), 700);

@@ -14,6 +14,7 @@ public final class ProgramTest {
         thenThereIsNoProgram(answers);
         noRunIsUnderWay(answers);
         nothingOfTheEarlierText(answers);
+        nothingOfTheEarlierStatements(answers);
         answers.finish("ProgramTest");
     }
 
@@ -139,5 +140,27 @@ public final class ProgramTest {
         String deep = "proc main(){" + "while 1{".repeat(39);
         answers.due("program() that stops forty deep", Answers.readBy(house, deep + "@"), -1 - 12 - 8 * 39);
         answers.due("program() of forty in one another", Answers.readBy(house, deep + "}".repeat(40)), 1);
+    }
+
+    /** STATEMENTS, EXPRESSIONS and choices of the earlier text stood where the next one's stand. */
+    private static void nothingOfTheEarlierStatements(Answers answers) {
+        answers.about(4, "The TAPE is the program");
+        SessionHouse house = new SessionHouse();
+        String talk = "type C=&{a end;b end;d end};proc f(c:C){case c{a{}b{}d{}}}proc main(){spawn c f();pick c b;x=1+y+z;}";
+        answers.due("program()", Answers.readBy(house, "proc main(){x=1+y+z;x=1+y+z;}"), 1);
+        answers.due("program()", Answers.readBy(house, "proc f(c:!int end){get x;send c 1;put c;}proc main(){}"), 2);
+        for (int i = 0; i < 3; i++) {
+            answers.due("program()", Answers.readBy(house, talk), 2);
+            house.start();
+            answers.due("run(9)", house.run(9), 1);
+            answers.due("count(5)", house.count(5), 0);
+            answers.due("program()", Answers.readBy(house,
+                    "proc main(){a=1;b=2;c=3;d=4;put c;if a{e=1;}else{e=2;}put e;while 1{}}"), 1);
+            house.start();
+            answers.due("run(20)", house.run(20), 0);
+            answers.counts(house, 20, 20, 1, 1, 9, 0, 0, 2);
+            answers.due("output(0)", house.output(0), 3);
+            answers.due("output(1)", house.output(1), 1);
+        }
     }
 }

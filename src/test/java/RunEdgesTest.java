@@ -29,6 +29,10 @@ public final class RunEdgesTest {
         nothingIsGivenAway(answers);
         firstWhatIsToldFirst(answers);
         blockedIsNoEnd(answers);
+        firstStatementOfTheText(answers);
+        argumentsOfTheNextCall(answers);
+        givenAwayAmongNumbers(answers);
+        otherChannelsStay(answers);
         answers.finish("RunEdgesTest");
     }
 
@@ -407,5 +411,57 @@ public final class RunEdgesTest {
         answers.due("process(0, 2, 0)", house.process(0, 2, 0), 2);
         answers.due("run(30): f takes the message", house.run(30), 3);
         answers.due("count(6)", house.count(6), 0);
+    }
+
+    /** Behind a BLOCK of the very first STATEMENT the process goes on with the next one. */
+    private static void firstStatementOfTheText(Answers answers) {
+        answers.about(8, "if and while: the EXPRESSION and the choice; case: a label is taken, and the choice");
+        SessionHouse house = answers.started("proc main(){if 1{put 1;}else{put 2;}put 3;}");
+        answers.due("run(9)", house.run(9), 1);
+        answers.puts(house, 1, 3);
+        house = answers.started("proc main(){if x{}else{if 1{put 4;}else{}}put 5;}");
+        answers.due("run(9)", house.run(9), 1);
+        answers.puts(house, 4, 5);
+        house = answers.started("proc main(){while x<2{x=x+1;put x;}put 5;}");
+        answers.due("run(20)", house.run(20), 1);
+        answers.puts(house, 1, 2, 5);
+        house = answers.started("proc f(c:&{a end;b end}){case c{a{put 1;}b{put 2;}}put 3;}proc main(){spawn c f();pick c b;}");
+        answers.due("run(20)", house.run(20), 1);
+        answers.puts(house, 2, 3);
+    }
+
+    private static void argumentsOfTheNextCall(Answers answers) {
+        answers.about(8, "spawn: a process of the proc, with what is told");
+        SessionHouse house = answers.started("proc f(n){put n;}proc g(a,b){}proc main(){spawn f(1);spawn f(2);spawn f(1/0);}");
+        answers.due("run(1)", house.run(1), 0);
+        answers.due("run(9)", house.run(9), 3);
+        answers.due("count(3)", house.count(3), 3);
+        answers.puts(house, 1, 2);
+    }
+
+    private static void givenAwayAmongNumbers(Answers answers) {
+        answers.about(8, "spawn: a process of the proc, with what is told");
+        SessionHouse house = answers.started("type S=!int end;proc f(c:S,n,d:S){while 1{}send c n;send d n;}"
+                + "proc z(a,b,c,d,e,g,h,i,j,k,l,m,n,o,p,q,r,s,t,u){}proc h(c:~S,n){while 1{}recv c x;}"
+                + "proc main(){spawn c h(1);spawn d h(2);spawn f(c,3,d);while 1{}}");
+        house.run(30);
+        int[] channels = {0, 1, 1, 2};
+        for (int k = 0; k < channels.length; k++) {
+            answers.due("process(" + k + ", 1, 0)", house.process(k, 1, 0), channels[k]);
+        }
+        answers.due("process(3, 3, 1)", house.process(3, 3, 1), 3);
+        answers.due("count(5)", house.count(5), 2);
+    }
+
+    /** A channel that is made where another one has gone leaves the messages of all others alone. */
+    private static void otherChannelsStay(Answers answers) {
+        answers.about(8, "A channel has two ends, each with a ROW of messages that go to it");
+        SessionHouse house = answers.started("type S=!int end;type T=!int!int?int end;proc s(c:S){send c 1;}"
+                + "proc t(c:~T,n){while n{n=n-1;}recv c x;recv c y;send c x*10+y;}"
+                + "proc main(){spawn a t(30);spawn b s();spawn c t(30);send a 1;send a 2;send c 3;send c 4;recv b x;"
+                + "spawn b s();spawn d t(30);send d 5;send d 6;recv b x;spawn b s();recv b x;"
+                + "recv a x;put x;recv c x;put x;recv d x;put x;}");
+        answers.due("run(2000)", house.run(2000), 1);
+        answers.puts(house, 12, 34, 56);
     }
 }

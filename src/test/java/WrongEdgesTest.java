@@ -25,6 +25,7 @@ public final class WrongEdgesTest {
         namesInOrderOfTheText(answers);
         loopsOfNames(answers);
         mainLacks(answers);
+        nameBehindTilde(answers);
         answers.finish("WrongEdgesTest");
     }
 
@@ -264,5 +265,18 @@ public final class WrongEdgesTest {
         answers.wrongAt("type main=+{main end};proc f(main){main=1;}^");
         answers.good("proc f(main){}" + MAIN, 2);
         answers.due("program() of a full TAPE without main", Answers.read("proc f(){}" + " ".repeat(2990)), -3001);
+    }
+
+    private static void nameBehindTilde(Answers answers) {
+        answers.about(4, "TYPE: .. ~ NAME");
+        answers.wrongAt("type A=~^;" + MAIN);
+        answers.wrongAt("type A=!int ~^;" + MAIN);
+        answers.wrongAt("type A=+{a ~^;b end};" + MAIN);
+        answers.wrongAt("type A=&{a ~^};" + MAIN);
+        answers.wrongAt("type A=!(~^)end;" + MAIN);
+        answers.wrongAt("proc f(c:~^){}" + MAIN);
+        answers.wrongAt("proc f(c:~^,d){}" + MAIN);
+        answers.wrongAt("type A=~^(B);" + MAIN);
+        answers.wrongAt("type A=~^int;" + MAIN);
     }
 }
