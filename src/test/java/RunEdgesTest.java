@@ -33,6 +33,7 @@ public final class RunEdgesTest {
         argumentsOfTheNextCall(answers);
         givenAwayAmongNumbers(answers);
         otherChannelsStay(answers);
+        numbersStayBesideChannels(answers);
         answers.finish("RunEdgesTest");
     }
 
@@ -463,5 +464,25 @@ public final class RunEdgesTest {
                 + "recv a x;put x;recv c x;put x;recv d x;put x;}");
         answers.due("run(2000)", house.run(2000), 1);
         answers.puts(house, 12, 34, 56);
+    }
+
+    /** A NAME's number is the same behind its channel's time, however that begins and ends. */
+    private static void numbersStayBesideChannels(Answers answers) {
+        answers.about(8, "Each process has numbers by NAMES, 0 at first, channels by NAMES");
+        String types = "type S=!int end;type G=!(S)end;type P=+{a end};proc f(c:~S){recv c x;}proc k(c:S){send c 1;}"
+                + "proc give(c:G){spawn d f();pass c d;}proc gain(c:~G){take c d;send d 1;}proc p(c:~P){case c{a{put c;}}}";
+        puts(answers, types + "proc main(){c=8;d=7;spawn c give();take c d;put c;send d 5;put d;}", 8, 7);
+        puts(answers, types + "proc main(){c=8;d=7;spawn d f();spawn c gain();pass c d;put c;put d;}", 8, 7);
+        puts(answers, types + "proc main(){d=7;spawn d f();spawn k(d);put d;}", 7);
+        puts(answers, types + "proc main(){d=7;spawn d k();recv d d2;put d;put d2;}", 7, 1);
+        puts(answers, types + "proc main(){c=6;spawn c p();pick c a;put c;}", 6, 0);
+        puts(answers, types + "proc q(c:P){pick c a;}proc main(){c=6;spawn c q();case c{a{put c;}}put c+1;}", 6, 7);
+        puts(answers, "type E=end;proc f(c:E){put c;c=2;put c;}proc main(){c=5;spawn c f();c=c+1;put c;}", 0, 6, 2);
+    }
+
+    private static void puts(Answers answers, String text, int... due) {
+        SessionHouse house = answers.started(text);
+        answers.due("run(100) of " + text, house.run(100), 1);
+        answers.puts(house, due);
     }
 }
